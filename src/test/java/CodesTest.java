@@ -97,6 +97,8 @@ public final class CodesTest {
         Check.tell(x, "k5252485250;");
         spareIs("one alone", x, 16);
         spareIs("one alone, of several the least", Check.told("k0000000000;k5050505050;k5050505050;"), 2);
+        spareIs("the first alone", Check.told("k5050505050;k5050505050;"), 1);
+        spareIs("ten KEYS", Check.told("k0000000000;".repeat(8), "k5050500000;k0000005050;"), 768);
         spareIs("within SLACK", Check.told("k5252525253;k0000000048;"), 3);
         spareIs("beyond SLACK", Check.told("k5252525253;k0000000047;"), -9);
         spareIs("five of five", Check.told("k5000000000;k0050000000;k0000500000;k0000005000;k0000000050;"), 31);

@@ -125,6 +125,7 @@ public final class CopiesTest {
         anewIs("two of three", Check.told("k1010101010;k1414141414;k3030303030;"), 2, 12, 12, 12, 12, 12);
         anewIs("of several the least", Check.told("k1011121314;k1212121212;"), 2, 10, 10, 10, 11, 12);
         anewIs("SLACK 0", Check.told("k1010101010;k1212121212;k1212121212;s0;"), 2, 12, 12, 12, 12, 12);
+        anewIs("the greatest PIN", Check.told("k9999999999;s0;"), 1, 99, 99, 99, 99, 99);
         anewIs("as many, the lower", Check.told("k8080808080;k2020202020;s0;"), 1, 20, 20, 20, 20, 20);
         anewIs("each of TEETH by itself", Check.told("k1010905050;k1090105050;k9010105050;s0;"), 0, 10, 10, 10, 50, 50);
         CopyOfACopy x = Check.told("k1010101010;k1414141414;k3030303030;x0;x1;");

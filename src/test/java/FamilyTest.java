@@ -64,6 +64,8 @@ public final class FamilyTest {
         CHECK.due("bestLine(), none OPENS", x.bestLine(), 0);
         CopyOfACopy copyOpens = Check.told("k1010101010;k5252525252;k1111111111;mm1;c10;");
         CHECK.due("bestLine(), two of one line", copyOpens.bestLine(), 1);
+        CopyOfACopy ten = Check.told("k0000000000;".repeat(8), "k0000000000;k5050505050;");
+        CHECK.due("bestLine(), ten KEYS", ten.bestLine(), 9);
         CopyOfACopy even = Check.told("k5050505050;k5050505050;");
         CHECK.due("bestLine(), as many", even.bestLine(), 0);
         even.snaps(0);

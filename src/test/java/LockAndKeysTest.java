@@ -48,6 +48,11 @@ public final class LockAndKeysTest {
         }
         x.slack(1);
         CHECK.due("OPENS with less SLACK", x.key(0, 7), 0);
+        for (int tooth = 0; tooth < 5; tooth++) {
+            CopyOfACopy one = Check.told("k5151515151;");
+            one.files(0, tooth, 47);
+            CHECK.due("WORST at " + tooth, one.key(0, 9), tooth);
+        }
         CHECK.due("WORST at the last", Check.told("k5050505051;").key(0, 9), 4);
         CHECK.due("WORST of none", Check.told("k5050505050;").key(0, 9), 0);
         CHECK.due("WIGGLE, most", Check.told("l0000000000;k9999999999;").key(0, 8), 495);
