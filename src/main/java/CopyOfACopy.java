@@ -527,21 +527,26 @@ public final class CopyOfACopy {
     private static final class Cutter {
         /** The place of a KIND's letter is its number. */
         static final String KIND_LETTERS = "mhwrsg";
+        private static final int HIGH = 1;
+        private static final int WOBBLY = 2;
+        private static final int ROUND = 3;
+        private static final int SLOPED = 4;
+        private static final int GOOD = 5;
 
         private Cutter() {
         }
 
         static int cutHeight(int kind, int figure, int height, int tooth) {
             switch (kind) {
-                case 1:
+                case HIGH:
                     return held(height + figure);
-                case 2:
+                case WOBBLY:
                     return tooth % 2 == 0 ? held(height - figure) : height;
-                case 3:
+                case ROUND:
                     return held(nearestTen(held(height - figure)));
-                case 4:
+                case SLOPED:
                     return held(held(height + figure) + tooth);
-                case 5:
+                case GOOD:
                     return held(nearestTen(height));
                 default:
                     return held(height - figure);
