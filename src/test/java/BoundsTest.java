@@ -170,6 +170,12 @@ public final class BoundsTest {
         number("which(0, #, 1)", -4, 0, 7, 9, 0, -6);
         EDGE.due("FIGURE 9", 1, "clear()", "rows(2, 12, 22, 32, 42)", "which(0, 9, 1)");
         EDGE.due("FIGURE no matter with MACHINES", 2, "which(1, 9, 0)");
+        for (int tooth = 0; tooth < 5; tooth++) {
+            String off = "files(1, " + tooth + ", " + (10 * tooth + 8) + ")";
+            EDGE.due("one of TEETH alone is not so: MACHINES", 0, off, "which(1, 0, 0)");
+            EDGE.due("one of TEETH alone is not so: KINDS", 0, off, "which(1, 2, 1)");
+        }
+        EDGE.due("all of TEETH are so: KINDS", 2, "which(1, 2, 1)");
         number("which(1, 0, #)", -2, 0, 2, 1, 0, -2);
         EDGE.refused("four numbers", -3, "clear()", "rows(11, 21, 31, 41)", "which(0, 0, 0)");
         EDGE.refused("six numbers", -3, "row(51)", "which(0, 0, 1)");

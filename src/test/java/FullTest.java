@@ -10,6 +10,8 @@ public final class FullTest {
         letters();
         tenKeys();
         askedOfTenKeys();
+        chainOfTen();
+        nineChildren();
         tenthKey();
         fiveMachines();
         theRow();
@@ -86,6 +88,41 @@ public final class FullTest {
         EDGE.refused("a set above the greatest", -6, "first(1024, 0)");
         EDGE.due("the greatest set", 5, "unlike(1023, 0)");
         EDGE.refused("a set above the greatest", -6, "unlike(1024, 0)");
+        EDGE.from();
+    }
+
+    private static void chainOfTen() {
+        EDGE.from("tell(k5050505050;mm0;c00;c10;c20;c30;c40;c50;c60;c70;c80;)");
+        for (int key = 0; key < 10; key++) {
+            EDGE.due("DEPTH, as many as are ahead", key, "family(" + key + ", 0)");
+            EDGE.due("ROOT, however far", 0, "family(" + key + ", 1)");
+            EDGE.due("CHILDREN, the last has none", key == 9 ? 0 : 1, "family(" + key + ", 2)");
+            EDGE.due("HEIRS, however far", 1024 - (1 << key), "family(" + key + ", 3)");
+            EDGE.due("LINE, however far", 10 - key, "line(" + key + ")");
+            EDGE.due("COMMON, it may be the one itself", key, "common(" + key + ", 9)");
+            EDGE.due("COMMON, it may be the other itself", key, "common(9, " + key + ")");
+        }
+        EDGE.due("BEST LINE, ten in one", 0, "bestLine()");
+        EDGE.due("OPENING ones, all ten", 1023, "opening()");
+        EDGE.due("how many OPEN, all ten", 10, "count(5)");
+        EDGE.due("how many OPEN with PINS ANEW, all ten", 10, "anew(-1)");
+        EDGE.due("DEPTH, SNAPPED ones ahead no matter", 9, "snaps(0)", "snaps(5)", "family(9, 0)");
+        EDGE.due("HEIRS, SNAPPED ones no matter", 1023, "snaps(0)", "snaps(5)", "family(0, 3)");
+        EDGE.due("LINE, without SNAPPED ones", 8, "snaps(0)", "snaps(5)", "line(0)");
+        EDGE.due("LOTS of ten", 20, "lots(20, 1, 0)");
+        EDGE.from();
+    }
+
+    private static void nineChildren() {
+        EDGE.from("tell(k5050505050;mm0;)", "9 x cut(0, 0)");
+        EDGE.due("CHILDREN, the most", 9, "family(0, 2)");
+        EDGE.due("HEIRS, all of them", 1023, "family(0, 3)");
+        EDGE.due("CHILDREN of one of them", 0, "family(9, 2)");
+        EDGE.due("COMMON of two of them", 0, "common(8, 9)");
+        EDGE.due("ASK, from the last one", 0, "ask(9)");
+        EDGE.due("ASK, from the last one, a sister", 1, "snaps(0)", "ask(9)");
+        EDGE.due("ASK, from the last one, the only sister", 8, "spell(x0;x1;x2;x3;x4;x5;x6;x7;)", "lock()", "ask(9)");
+        EDGE.due("ASK, from the first, its last child", 9, "spell(x1;x2;x3;x4;x5;x6;x7;x8;)", "lock()", "ask(0)");
         EDGE.from();
     }
 

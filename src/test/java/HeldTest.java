@@ -205,6 +205,11 @@ public final class HeldTest {
         EDGE.due("HEIGHTS at 0 ahead of PINS: just within SLACK", -9, "tell(l0303030303;k0303030303;)", "lasts(0)");
         EDGE.due("both at 0", -9, "tell(l0000000000;k0000000000;)", "lasts(0)");
         EDGE.due("USES do not matter to it", 50, "tell(k5050505050;k5050505050;)", "uses(1, 9)", "lasts(0)");
+        for (int tooth = 0; tooth < 5; tooth++) {
+            String filed = "files(0, " + tooth + ", ";
+            EDGE.due("one of TEETH alone OPENS no more", 10, "tell(k5050505050;)", filed + "48)", "lasts(0)");
+            EDGE.due("one of TEETH alone does not OPEN now", 0, "tell(k5050505050;)", filed + "47)", "lasts(0)");
+        }
         EDGE.due("the longest there is", 370, "tell(l9090909090;k9999999999;s9;)", "lasts(0)");
     }
 

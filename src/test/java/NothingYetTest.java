@@ -121,6 +121,8 @@ public final class NothingYetTest {
         EDGE.due("FIT, SNAPPED no matter", 1, "fit(1)");
         EDGE.due("WIGGLE, SNAPPED no matter", 5, "key(1, 8)");
         EDGE.due("OPENS, SNAPPED", 0, "key(0, 7)");
+        EDGE.due("SNAPPED", 1, "key(0, 6)");
+        EDGE.due("SNAPPED ones (bits)", 3, "count(4)");
         EDGE.due("IN A ROW, a SNAPPED KEY is cut in mind", 2, "inRow(0, 0, 0)");
         EDGE.due("LOTS, a SNAPPED KEY is cut in mind", 20, "lots(20, 0, 0)");
         EDGE.due("TWO, a SNAPPED KEY is cut in mind", 0, "two(0, 0)");

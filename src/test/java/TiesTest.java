@@ -75,6 +75,8 @@ public final class TiesTest {
             EDGE.due("PINS ANEW, as many at both ends", 0, "tell(k9999999999;k0000000000;s0;)", asked);
             EDGE.due("PINS ANEW, one more, though higher", 97, "tell(k0000000000;k9999999999;k9999999999;)", asked);
         }
+        EDGE.due("PINS ANEW, never below 0", 0, "tell(k0000000000;s9;)", "anew(0)");
+        EDGE.due("PINS ANEW, never above 99", 90, "tell(k9999999999;s9;)", "anew(0)");
         EDGE.due("PINS ANEW, two just near enough", 50, "tell(k4848484848;k5252525252;)", "anew(0)");
         EDGE.due("PINS ANEW, two just too far", 46, "tell(k4848484848;k5353535353;)", "anew(0)");
         EDGE.due("PINS ANEW, the least, though fewer OPEN then", 0, "tell(k1050101010;k5010505050;s0;)", "anew(-1)" );
@@ -156,6 +158,7 @@ public final class TiesTest {
         EDGE.due("TWO, the other MACHINE by several", 1, "tell(k5050505050;mh1;mm1;mm1;)", "two(0, 0)");
         EDGE.due("TWO, two steady ones as good: the first", 10, "tell(k5050505050;mg0;mm1;mh1;)", "files(0, 0, 52)",
             "two(0, 0)");
+        EDGE.due("TWO, not steady as the other has better by MACHINE 0", 20, "tell(k5252525252;mm3;mg0;mh1;)", "two(0, 0)");
         EDGE.due("TWO, better by 1 is better", 12, "tell(k5050505050;mm1;mh1;mm2;)", "two(0, 0)");
         EDGE.due("TWO, at an odd one of TEETH", 0, "tell(k5050505050;mw9;mw1;)", "two(0, 1)");
         EDGE.due("TWO, at an even one of TEETH", 10, "tell(k5050505050;mw9;mw1;)", "two(0, 2)");
