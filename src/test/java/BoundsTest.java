@@ -5,10 +5,11 @@ public final class BoundsTest {
     private static final int MOST = Integer.MAX_VALUE;
     /**
      * PINS 10 to 50, SLACK 4, USES 9; KEYS 0 and 3 are 1 above the PINS, 1 is 1 and 2 is 2 below; 2 is FROM 0, 3 FROM 1;
-     * MACHINES m3 and h2; the ROW is as KEY 0; THE IMAGE has KEY 0 and m3 alone.
+     * MACHINES m3 and h2; the ROW is as KEY 0. THE IMAGE has KEY 0 and m3 alone, PINS 50; much came behind the last LOCK.
      */
-    private static final String[] RICH = {"tell(l1020304050;k1121314151;mm3;)", "image()",
-        "tell(k0919293949;mh2;c00;c11;s4;u009;)", "rows(11, 21, 31, 41, 51)", "spell(s7;)"};
+    private static final String[] RICH = {"tell(k1121314151;mm3;)", "image()", "tell(k0919293949;mr7;)", "sets(0, 10)",
+        "sets(1, 20)", "sets(2, 30)", "sets(3, 40)", "sets(4, 50)", "slack(4)", "turn(1, 1, 2)", "cut(0, 0)", "cut(1, 1)",
+        "uses(0, 9)", "rows(11, 21, 31, 41, 51)", "spell(s7;)"};
 
     public static void main(String[] args) {
         EDGE.from(RICH);
@@ -104,6 +105,10 @@ public final class BoundsTest {
         EDGE.due("used 99 times", 108, "uses(0, 99)", "count(2)");
         EDGE.due("used 99 times, a HEIGHT", 42, "uses(0, 99)", "key(0, 4)");
         EDGE.due("used 99 times, a PIN", 46, "uses(0, 99)", "pin(4)");
+        EDGE.refused("SNAPPED by snaps: snapped again", -3, "snaps(0)", "snaps(0)");
+        EDGE.refused("SNAPPED by snaps: used", -3, "snaps(0)", "uses(0, 1)");
+        EDGE.refused("SNAPPED by snaps: cut", -3, "snaps(0)", "cut(0, 0)");
+        EDGE.due("not SNAPPED any more behind on()", 0, "snaps(0)", "on()", "key(0, 6)");
         number("snaps(#)", -1, 0, 3, 3, 3, -1);
     }
 
@@ -121,9 +126,13 @@ public final class BoundsTest {
     private static void inRowLastsFitAnew() {
         number("inRow(#, 0, 0)", -1, 0, 1, 3, 1, -1);
         number("inRow(2, #, 0)", -1, 0, 0, 1, 3, -1);
+        EDGE.due("GOES FIRST, by that KEY and that MACHINE", 3, "files(2, 3, 43)", "files(0, 0, 12)", "inRow(2, 1, 1)");
+        EDGE.due("IN A ROW, by that KEY and that MACHINE", 0, "files(2, 3, 43)", "files(0, 0, 12)", "inRow(2, 1, 0)");
         number("inRow(1, 0, #)", -2, 0, 1, 1, 0, -2);
         number("lasts(#)", -1, 0, 110, 3, 110, -1);
         number("fit(#)", -1, 0, 1, 3, 1, -1);
+        EDGE.due("FIT by a PIN set just now", 4, "sets(3, 37)", "fit(0)");
+        EDGE.due("WORST by a PIN set just now", 3, "sets(3, 37)", "key(0, 9)");
         EDGE.due("the least FIT", 0, "tell(l1121314151;)", "fit(0)");
         EDGE.due("the greatest FIT", 99, "tell(l1120314100;)", "files(0, 4, 99)", "fit(0)");
         // -1 asks how many OPEN, so -2 is the first below.
@@ -159,12 +168,20 @@ public final class BoundsTest {
         // By m0 at SLACK 0 none may slip at all.
         EDGE.due("n and t the greatest, above", 47045881, "tell(mm0;s0;l1121314151;)", "slip(0, 2, 6, 20, 0)");
         EDGE.due("n and t the greatest, below", 64000000, "tell(mm0;s0;l1121314151;)", "slip(0, 2, 6, 20, 1)");
+        EDGE.due("n 0 asks the KEY itself, not another", 0, "files(3, 0, 19)", "slip(3, 0, 0, 2, 0)");
         EDGE.due("n and t the least, below", 1, "slip(0, 0, 0, 2, 1)");
     }
 
     private static void twoWhich() {
         number("two(#, 0)", -1, 0, 10, 3, 10, -1);
         number("two(0, #)", -1, 0, 10, 4, 10, -1);
+        for (int tooth = 0; tooth < 5; tooth++) {
+            String filed = "files(0, " + tooth + ", 46)";
+            String asked = "two(0, " + tooth + ")";
+            // From 46 g comes highest for the one and lowest for the other; from all other HEIGHTS it does not.
+            EDGE.due("TWO, by the HEIGHT of that one of TEETH", 11, "turn(0, 1, 1)", "turn(1, 5, 0)", filed, asked);
+            EDGE.due("TWO, by the HEIGHT of that one of TEETH", 1, "turn(0, 1, 1)", "turn(1, 5, 0)", asked);
+        }
         number("which(#, 0, 1)", -1, 0, 7, 3, 7, -1);
         number("which(0, #, 0)", -4, 0, 0, 9, 0, -6);
         number("which(0, #, 1)", -4, 0, 7, 9, 0, -6);

@@ -142,6 +142,7 @@ public final class HeldTest {
                 "tell(" + five('l', 99) + five('k', row[0]) + ")", "mend(0)");
         }
         EDGE.due("CODES of 96 and 94 are as one another", 0, "tell(k9696969696;k9494949494;)", "unlike(1, 1)");
+        EDGE.due("CODES of 94 and 96 are, too", 0, "tell(k9696969696;k9494949494;)", "unlike(2, 0)");
         EDGE.due("CODES of 5 and 6 are not", 5, "tell(k0505050505;k0606060606;)", "unlike(1, 1)");
         EDGE.due("MEND may be below 0, the least", -45, "tell(l9999999999;k9999999999;)", "mend(0)");
         EDGE.due("MEND, the most", 25, "tell(l5050505050;k4545454545;)", "files(0, 0, 55)", "files(0, 1, 55)",

@@ -2,13 +2,17 @@
 public final class NothingYetTest {
     private static final Edge EDGE = new Edge("NothingYetTest");
     private static final String KEY = "tell(k5150494852;)";
+    private static final String MACHINES = "tell(mm1;mh2;)";
 
     public static void main(String[] args) {
         atFirst();
         noLetters();
         noKeys();
-        noMachines();
-        onlyMachines();
+        noKeys("image()", "tell(k5050505050;k5151515151;mm1;mh1;)", "cut(0, 0)", "on()");
+        noMachines(KEY);
+        noMachines(KEY, "image()", "tell(k5050505050;mm1;mh1;)", "on()");
+        onlyMachines(MACHINES);
+        onlyMachines(MACHINES, "image()", "tell(k5050505050;mm1;)", "on()");
         onlySnapped();
         noRow();
         noImage();
@@ -46,7 +50,9 @@ public final class NothingYetTest {
         EDGE.due("no letters behind a LOCK", 0, "tell(s3;)", "count(7)");
     }
 
-    private static void noKeys() {
+    /** None at all, or none any more behind on(). */
+    private static void noKeys(String... start) {
+        EDGE.from(start);
         String[] calls = {"key(0, 0)", "files(0, 0, 0)", "cut(0, 0)", "uses(0, 1)", "snaps(0)", "family(0, 0)",
             "common(0, 0)", "inRow(0, 0, 0)", "lasts(0)", "fit(0)", "mend(0)", "line(0)", "ask(0)",
             "slip(0, 0, 0, 2, 0)", "two(0, 0)", "which(0, 0, 0)", "judge(0)"};
@@ -74,10 +80,11 @@ public final class NothingYetTest {
         EDGE.fault("no such KEY so far, used 0 times", -2000, "u000;");
         EDGE.fault("no such KEY so far", -2000, "x0;");
         EDGE.fault("no such KEY so far, though it comes", -2000, "x0;k5050505050;");
+        EDGE.from();
     }
 
-    private static void noMachines() {
-        EDGE.from(KEY);
+    private static void noMachines(String... start) {
+        EDGE.from(start);
         String[] calls = {"machine(0, 0)", "turn(0, 0, 0)", "cut(0, 0)", "inRow(0, 0, 0)", "slip(0, 0, 0, 2, 0)"};
         for (String call : calls) {
             EDGE.refused("no such MACHINE", -1, call);
@@ -94,8 +101,8 @@ public final class NothingYetTest {
         EDGE.from();
     }
 
-    private static void onlyMachines() {
-        EDGE.from("tell(mm1;mh2;)");
+    private static void onlyMachines(String... start) {
+        EDGE.from(start);
         EDGE.due("NEXT without KEYS", -9, "next(0)");
         EDGE.due("that WIGGLE without KEYS", -9, "next(1)");
         EDGE.refused("LOTS without KEYS", -3, "lots(20, 7, 1)");
@@ -131,6 +138,15 @@ public final class NothingYetTest {
         EDGE.due("SLIP, no copy of a SNAPPED KEY", 0, "slip(0, 0, 0, 2, 0)");
         EDGE.due("SLIP, 0 as 0 by 1", 1, "slip(0, 0, 0, 2, 1)");
         EDGE.due("THE FIRST ONE, of SNAPPED ones", 50, "first(3, 0)");
+        EDGE.due("a SNAPPED KEY has FROM", -9, "key(1, 5)");
+        EDGE.due("a SNAPPED KEY has DEPTH", 0, "family(1, 0)");
+        EDGE.due("a SNAPPED KEY has COMMON with itself", 1, "common(1, 1)");
+        EDGE.due("a SNAPPED KEY has COMMON with another", -9, "common(0, 1)");
+        EDGE.due("a SNAPPED KEY is not unlike itself", 0, "unlike(2, 1)");
+        EDGE.due("a SNAPPED KEY can be mended", 5, "mend(1)");
+        EDGE.due("a SNAPPED KEY is JUDGED", 1, "rows(50, 51)", "judge(0)");
+        EDGE.due("GOES FIRST, a SNAPPED KEY is cut in mind", 0, "inRow(1, 0, 1)");
+        EDGE.due("KINDS, a SNAPPED KEY is cut in mind", 41, "rows(50, 50, 50, 50, 50)", "which(1, 1, 1)");
         EDGE.due("a SNAPPED KEY can be filed", 50, "files(0, 0, 9)");
         EDGE.due("none is not SNAPPED any more", 0, "tell(k5050505050;)", "snaps(2)");
         EDGE.refused("SNAPPED already", -3, "snaps(0)");

@@ -79,6 +79,15 @@ public final class TiesTest {
         EDGE.due("PINS ANEW, never above 99", 90, "tell(k9999999999;s9;)", "anew(0)");
         EDGE.due("PINS ANEW, two just near enough", 50, "tell(k4848484848;k5252525252;)", "anew(0)");
         EDGE.due("PINS ANEW, two just too far", 46, "tell(k4848484848;k5353535353;)", "anew(0)");
+        for (int key = 0; key < 3; key++) {
+            int left = key == 0 ? 20 : 10;
+            for (int tooth = 0; tooth < 5; tooth++) {
+                EDGE.due("PINS ANEW, without a SNAPPED one", left, "tell(k1010101010;k2020202020;k3030303030;s0;x" + key + ";)",
+                    "anew(" + tooth + ")");
+            }
+            EDGE.due("PINS ANEW, without a SNAPPED one, how many OPEN", 1,
+                "tell(k1010101010;k2020202020;k3030303030;s0;x" + key + ";)", "anew(-1)");
+        }
         EDGE.due("PINS ANEW, the least, though fewer OPEN then", 0, "tell(k1050101010;k5010505050;s0;)", "anew(-1)" );
         EDGE.due("PINS ANEW, the least leaves both open", 2, "tell(k4848484848;k5252525252;)", "anew(-1)");
     }
@@ -161,6 +170,7 @@ public final class TiesTest {
         EDGE.due("TWO, not steady as the other has better by MACHINE 0", 20, "tell(k5252525252;mm3;mg0;mh1;)", "two(0, 0)");
         EDGE.due("TWO, better by 1 is better", 12, "tell(k5050505050;mm1;mh1;mm2;)", "two(0, 0)");
         EDGE.due("TWO, at an odd one of TEETH", 0, "tell(k5050505050;mw9;mw1;)", "two(0, 1)");
+        EDGE.due("TWO, at an odd one of TEETH, the other way round", 0, "tell(k5050505050;mw1;mw9;)", "two(0, 1)");
         EDGE.due("TWO, at an even one of TEETH", 10, "tell(k5050505050;mw9;mw1;)", "two(0, 2)");
     }
 
