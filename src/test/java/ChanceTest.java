@@ -18,7 +18,7 @@ public final class ChanceTest {
     }
 
     private static void slip() {
-        CopyOfACopy x = Check.told(KEY + "mm1;mm0;");
+        Counted x = Check.told(KEY + "mm1;mm0;");
         slipIs("both OPEN", x, 0, 1, 5, 1, 1);
         slipIs("without a slip", x, 0, 2, 2, 1, 4);
         slipIs("without a slip", x, 0, 2, 3, 4, 9);
@@ -37,29 +37,29 @@ public final class ChanceTest {
     }
 
     private static void slipByKinds() {
-        CopyOfACopy good = Check.told("k5555555555;mg9;");
+        Counted good = Check.told("k5555555555;mg9;");
         slipIs("GOOD never slips", good, 0, 6, 2, 1, 1);
-        CopyOfACopy high = Check.told("k4040404040;mh9;s0;");
+        Counted high = Check.told("k4040404040;mh9;s0;");
         slipIs("FIGURE 10", high, 0, 1, 7, 1, 7);
-        CopyOfACopy round = Check.told("k5050505050;mr4;s0;");
+        Counted round = Check.told("k5050505050;mr4;s0;");
         slipIs("ROUND, once", round, 0, 1, 5, 4, 5);
         slipIs("ROUND, twice", round, 0, 2, 5, 16, 25);
-        CopyOfACopy wobbly = Check.told("l4950495049;k5050505050;mw0;s0;");
+        Counted wobbly = Check.told("l4950495049;k5050505050;mw0;s0;");
         slipIs("WOBBLY, one slip of three", wobbly, 0, 3, 3, 4, 9);
-        CopyOfACopy sloped = Check.told("l5152535455;k5050505050;ms0;s0;");
+        Counted sloped = Check.told("l5152535455;k5050505050;ms0;s0;");
         slipIs("SLOPED, the slip", sloped, 0, 1, 9, 1, 9);
-        CopyOfACopy lastTooth = Check.told("l5050505051;k5050505050;mh0;s1;");
+        Counted lastTooth = Check.told("l5050505051;k5050505050;mh0;s1;");
         slipIs("one of TEETH too far", lastTooth, 0, 2, 2, 3, 4);
     }
 
-    private static void slipIs(String why, CopyOfACopy x, int machine, int n, int t, long above, long below) {
+    private static void slipIs(String why, Counted x, int machine, int n, int t, long above, long below) {
         String call = "slip(0, " + machine + ", " + n + ", " + t + ", ";
         CHECK.unchanged(call + "0), " + why, x, above, () -> x.slip(0, machine, n, t, 0));
         CHECK.unchanged(call + "1), " + why, x, below, () -> x.slip(0, machine, n, t, 1));
     }
 
     private static void slipRefused() {
-        CopyOfACopy x = Check.told(KEY + "mm1;");
+        Counted x = Check.told(KEY + "mm1;");
         for (int wrong : new int[] {-1, 1, LEAST, MOST}) {
             CHECK.refused("slip(" + wrong + ", 0, -1, 1, 2)", x, -1, REFUSED + 1, () -> x.slip(wrong, 0, -1, 1, 2));
             CHECK.refused("slip(0, " + wrong + ", 7, 21, 2)", x, -1, REFUSED + 1, () -> x.slip(0, wrong, 7, 21, 2));
@@ -87,7 +87,7 @@ public final class ChanceTest {
         twoIs("the one high, the other low", Check.told(KEY + "mm1;mh2;"), 0, 10);
         twoIs("the one high, the other low", Check.told(KEY + "mh2;mm1;"), 0, 1);
         twoIs("of several the first", Check.told(KEY + "mm1;mm1;mh2;mh2;"), 0, 20);
-        CopyOfACopy five = Check.told("k4352617025;k4454607123;mm1;mh2;mw3;mr4;ms0;");
+        Counted five = Check.told("k4352617025;k4454607123;mm1;mh2;mw3;mr4;ms0;");
         twoIs("five MACHINES", five, 0, 13);
         twoIs("five MACHINES", five, 3, 13);
         CHECK.due("two(1, 0)", five.two(1, 0), 3);
@@ -101,12 +101,12 @@ public final class ChanceTest {
         twoIs("the first wins nothing by more", Check.told("k4646464646;mm0;mh4;mg0;"), 0, 10);
     }
 
-    private static void twoIs(String why, CopyOfACopy x, int tooth, int pair) {
+    private static void twoIs(String why, Counted x, int tooth, int pair) {
         CHECK.unchanged("two(0, " + tooth + "), " + why, x, pair, () -> x.two(0, tooth));
     }
 
     private static void twoRefused() {
-        CopyOfACopy x = Check.told(KEY);
+        Counted x = Check.told(KEY);
         for (int wrong : new int[] {-1, 5, LEAST, MOST}) {
             CHECK.refused("two(" + wrong + ", 0)", x, -1, () -> x.two(wrong, 0));
             CHECK.refused("two(0, " + wrong + ")", x, -1, () -> x.two(0, wrong));
@@ -114,20 +114,20 @@ public final class ChanceTest {
     }
 
     private static void lots() {
-        CopyOfACopy x = Check.told("k5050505050;k5347505544;k1020304099;mm1;mh2;mw1;mg0;");
+        Counted x = Check.told("k5050505050;k5347505544;k1020304099;mm1;mh2;mw1;mg0;");
         int[][] due = {{1, 0, 0, 142}, {1, 1, 0, 20}, {5, 7, 2, 325}, {20, 7, 7, 1309}, {20, -1, 8, 487}, {20, MOST, 8, 487},
             {20, LEAST, 7, 1270}, {13, 123456789, 6, 304}};
         for (int[] row : due) {
             CHECK.unchanged("lots(" + row[0] + ", " + row[1] + ", 0)", x, row[2], () -> x.lots(row[0], row[1], 0));
             CHECK.unchanged("lots(" + row[0] + ", " + row[1] + ", 1)", x, row[3], () -> x.lots(row[0], row[1], 1));
         }
-        CopyOfACopy snapped = Check.told(KEY + "mm1;x0;");
+        Counted snapped = Check.told(KEY + "mm1;x0;");
         CHECK.due("lots, a SNAPPED one is cut", snapped.lots(20, 3, 0), 20);
         CHECK.due("lots, twice", snapped.lots(20, 3, 1), 200);
     }
 
     private static void lotsRefused() {
-        CopyOfACopy x = new CopyOfACopy();
+        Counted x = new Counted();
         for (int n : new int[] {0, -1, LEAST}) {
             CHECK.refused("lots(" + n + ", 0, 2)", x, -4, () -> x.lots(n, 0, 2));
         }
@@ -138,9 +138,9 @@ public final class ChanceTest {
             CHECK.refused("lots(20, 0, " + what + ")", x, -2, () -> x.lots(20, 0, what));
         }
         CHECK.refused("lots(1, 0, 0), nothing", x, -3, () -> x.lots(1, 0, 0));
-        CopyOfACopy noMachines = Check.told(KEY);
+        Counted noMachines = Check.told(KEY);
         CHECK.refused("lots(1, 0, 0), no MACHINES", noMachines, -3, () -> noMachines.lots(1, 0, 0));
-        CopyOfACopy noKeys = Check.told("mm0;");
+        Counted noKeys = Check.told("mm0;");
         CHECK.refused("lots(20, 0, 1), no KEYS", noKeys, -3, () -> noKeys.lots(20, 0, 1));
     }
 }

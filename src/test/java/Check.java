@@ -19,49 +19,46 @@ final class Check {
     }
 
     /** A call that must be refused: its answer, one refusal of that number more, and nothing else changed. */
-    void refused(String call, CopyOfACopy x, int number, long answer, LongSupplier asks) {
-        String before = stateOf(x);
-        int[] had = refusalsOf(x);
-        due(call, asks.getAsLong(), answer);
-        int[] has = refusalsOf(x);
-        for (int i = 1; i <= 6; i++) {
-            due(call + " then count(" + (10 + i) + ")", has[i], had[i] + (i == -number ? 1 : 0));
-        }
-        sameState(call, x, before);
+    void refused(String call, Counted x, int number, long answer, LongSupplier asks) {
+        changesNothing(call, x, number, answer, asks);
     }
 
-    void refused(String call, CopyOfACopy x, int number, LongSupplier asks) {
-        refused(call, x, number, number, asks);
+    void refused(String call, Counted x, int number, LongSupplier asks) {
+        changesNothing(call, x, number, number, asks);
     }
 
     /** A call that must change nothing, refusals neither. */
-    void unchanged(String call, CopyOfACopy x, long answer, LongSupplier asks) {
-        String before = stateOf(x);
-        int[] had = refusalsOf(x);
+    void unchanged(String call, Counted x, long answer, LongSupplier asks) {
+        changesNothing(call, x, 0, answer, asks);
+    }
+
+    private void changesNothing(String call, Counted x, int number, long answer, LongSupplier asks) {
+        Counted before = x.twin();
         due(call, asks.getAsLong(), answer);
-        int[] has = refusalsOf(x);
+        Counted after = x.twin();
+        int[] had = before.refusals();
+        int[] has = after.refusals();
         for (int i = 1; i <= 6; i++) {
-            due(call + " then count(" + (10 + i) + ")", has[i], had[i]);
+            due(call + " then count(" + (10 + i) + ")", has[i], had[i] + (i == -number ? 1 : 0));
         }
-        sameState(call, x, before);
+        same(call, after.everything(), before.everything());
     }
 
-    void sameState(String call, CopyOfACopy x, String before) {
+    void same(String call, String told, String due) {
         asked++;
-        String after = stateOf(x);
-        if (!after.equals(before)) {
+        if (!told.equals(due)) {
             wrong++;
-            System.out.println(name + ": " + call + " changed " + before + " to " + after);
+            System.out.println(name + ": " + call + " changed " + due + " to " + told);
         }
     }
 
-    void heights(String call, CopyOfACopy x, int key, int... want) {
+    void heights(String call, Counted x, int key, int... want) {
         for (int tooth = 0; tooth < 5; tooth++) {
             due(call + ": key(" + key + ", " + tooth + ")", x.key(key, tooth), want[tooth]);
         }
     }
 
-    void pins(String call, CopyOfACopy x, int... want) {
+    void pins(String call, Counted x, int... want) {
         for (int tooth = 0; tooth < 5; tooth++) {
             due(call + ": pin(" + tooth + ")", x.pin(tooth), want[tooth]);
         }
@@ -74,48 +71,20 @@ final class Check {
         }
     }
 
-    static int[] refusalsOf(CopyOfACopy x) {
-        int[] refusals = new int[7];
-        for (int i = 1; i <= 6; i++) {
-            refusals[i] = x.count(10 + i);
-        }
-        return refusals;
-    }
-
-    /** All that the face tells of an object, without refusals. */
-    static String stateOf(CopyOfACopy x) {
-        StringBuilder told = new StringBuilder();
-        for (int what = 0; what < 8; what++) {
-            told.append(x.count(what)).append(' ');
-        }
-        for (int tooth = 0; tooth < 5; tooth++) {
-            told.append('l').append(x.pin(tooth));
-        }
-        for (int key = 0; key < x.count(0); key++) {
-            for (int what = 0; what < 10; what++) {
-                told.append(what == 0 ? " k" : ",").append(x.key(key, what));
-            }
-        }
-        for (int machine = 0; machine < x.count(1); machine++) {
-            told.append(" m").append(x.machine(machine, 0)).append(',').append(x.machine(machine, 1));
-        }
-        return told.toString();
-    }
-
-    static void spell(CopyOfACopy x, String text) {
+    static void spell(Counted x, String text) {
         for (int i = 0; i < text.length(); i++) {
             x.letter(text.charAt(i));
         }
     }
 
-    static int tell(CopyOfACopy x, String text) {
+    static int tell(Counted x, String text) {
         spell(x, text);
         return x.lock();
     }
 
     /** A new object to which texts have been told one behind the other, all of them without fault. */
-    static CopyOfACopy told(String... texts) {
-        CopyOfACopy x = new CopyOfACopy();
+    static Counted told(String... texts) {
+        Counted x = new Counted();
         for (String text : texts) {
             int answer = tell(x, text);
             if (answer < 1) {
@@ -125,7 +94,7 @@ final class Check {
         return x;
     }
 
-    static void tellRow(CopyOfACopy x, int... numbers) {
+    static void tellRow(Counted x, int... numbers) {
         for (int number : numbers) {
             x.row(number);
         }

@@ -15,7 +15,7 @@ public final class CodesTest {
     }
 
     private static void codes() {
-        CopyOfACopy x = Check.told("k0000000000;");
+        Counted x = Check.told("k0000000000;");
         for (int v = 0; v < 100; v++) {
             x.files(0, 3, v);
             int lower = v / 10 * 10;
@@ -25,7 +25,7 @@ public final class CodesTest {
     }
 
     private static void first() {
-        CopyOfACopy x = Check.told("k1000990550;k2105980650;k3610001550;k4425969550;");
+        Counted x = Check.told("k1000990550;k2105980650;k3610001550;k4425969550;");
         int[][] due = {{1, 10, 0, 90, 0, 50}, {3, 10, 0, 90, 0, 50}, {5, 10, 0, 0, 0, 50}, {6, 20, 0, 0, 10, 50},
             {7, 20, 0, 90, 10, 50}, {8, 40, 20, 90, 90, 50}, {12, 40, 10, 0, 10, 50}, {14, 40, 10, 90, 10, 50},
             {15, 20, 0, 90, 10, 50}};
@@ -36,13 +36,13 @@ public final class CodesTest {
                 CHECK.unchanged("first(" + row[0] + ", " + tooth + ")", x, row[1 + tooth], () -> x.first(row[0], tooth));
             }
         }
-        CopyOfACopy ten = Check.told("k0000000000;".repeat(5), "k5050505050;".repeat(5));
+        Counted ten = Check.told("k0000000000;".repeat(5), "k5050505050;".repeat(5));
         CHECK.due("first of ten", ten.first(1023, 0), 0);
         CHECK.due("first of nine", ten.first(1022, 0), 50);
     }
 
     private static void unlike() {
-        CopyOfACopy x = Check.told("k1000990550;k2105980650;k3610001550;k4425969550;");
+        Counted x = Check.told("k1000990550;k2105980650;k3610001550;k4425969550;");
         int[][] due = {{1, 0, 0}, {1, 1, 2}, {1, 2, 4}, {1, 3, 3}, {7, 0, 2}, {7, 1, 0}, {7, 2, 3}, {15, 3, 3}, {8, 3, 0}};
         for (int[] row : due) {
             CHECK.unchanged("unlike(" + row[0] + ", " + row[1] + ")", x, row[2], () -> x.unlike(row[0], row[1]));
@@ -51,7 +51,7 @@ public final class CodesTest {
     }
 
     private static void setsRefused() {
-        CopyOfACopy x = Check.told("k1010101010;k2020202020;");
+        Counted x = Check.told("k1010101010;k2020202020;");
         for (int set : new int[] {0, -1, LEAST}) {
             CHECK.refused("first(" + set + ", 5)", x, -4, () -> x.first(set, 5));
             CHECK.refused("unlike(" + set + ", 2)", x, -4, () -> x.unlike(set, 2));
@@ -65,10 +65,10 @@ public final class CodesTest {
             CHECK.refused("unlike(3, " + wrong + ")", x, -1, () -> x.unlike(3, wrong));
         }
         CHECK.refused("unlike(3, 2)", x, -1, () -> x.unlike(3, 2));
-        CopyOfACopy none = new CopyOfACopy();
+        Counted none = new Counted();
         CHECK.refused("first(1, 0), no KEYS", none, -6, () -> none.first(1, 0));
         CHECK.refused("unlike(0, 0), no KEYS", none, -4, () -> none.unlike(0, 0));
-        CopyOfACopy ten = Check.told("k0000000000;".repeat(5), "k5050505050;".repeat(5));
+        Counted ten = Check.told("k0000000000;".repeat(5), "k5050505050;".repeat(5));
         CHECK.refused("first(1024, 0), ten KEYS", ten, -6, () -> ten.first(1024, 0));
     }
 
@@ -77,7 +77,7 @@ public final class CodesTest {
         CHECK.due("mend, worse", Check.told("l4352617025;k4352617025;").mend(0), -11);
         CHECK.due("mend, 90 at most", Check.told("l9999999999;k9999999999;").mend(0), -45);
         CHECK.due("mend, as good", Check.told("k5050505050;").mend(0), 0);
-        CopyOfACopy x = Check.told("l5050505050;k5650505051;x0;");
+        Counted x = Check.told("l5050505050;k5650505051;x0;");
         CHECK.unchanged("mend(0), SNAPPED", x, -3, () -> x.mend(0));
         for (int key : new int[] {-1, 1, LEAST, MOST}) {
             CHECK.refused("mend(" + key + ")", x, -1, 1000000001L, () -> x.mend(key));
@@ -85,8 +85,8 @@ public final class CodesTest {
     }
 
     private static void spare() {
-        spareIs("no KEYS", new CopyOfACopy(), -9);
-        CopyOfACopy x = Check.told("k5050000000;k0000505050;k5050505000;k0000000050;");
+        spareIs("no KEYS", new Counted(), -9);
+        Counted x = Check.told("k5050000000;k0000505050;k5050505000;k0000000050;");
         spareIs("two of several pairs", x, 3);
         x.snaps(0);
         spareIs("0 SNAPPED", x, 6);
@@ -105,7 +105,7 @@ public final class CodesTest {
         spareIs("fewer, though greater", Check.told("k5000000000;k0050505000;k0000000050;k5000000050;"), 10);
     }
 
-    private static void spareIs(String why, CopyOfACopy x, int bits) {
+    private static void spareIs(String why, Counted x, int bits) {
         CHECK.unchanged("spare(), " + why, x, bits, x::spare);
     }
 }

@@ -17,7 +17,7 @@ public final class CopiesTest {
     }
 
     private static void nearest() {
-        CopyOfACopy x = new CopyOfACopy();
+        Counted x = new Counted();
         CHECK.unchanged("nearest(), no KEYS", x, -9, x::nearest);
         Check.tell(x, "k5350505050;k5050515050;k5050504950;k9999999999;");
         CHECK.unchanged("nearest()", x, 1, x::nearest);
@@ -32,7 +32,7 @@ public final class CopiesTest {
     }
 
     private static void next() {
-        CopyOfACopy x = new CopyOfACopy();
+        Counted x = new Counted();
         nextIs("no KEYS", x, -9, -9);
         Check.tell(x, "mm1;mh1;mm2;");
         nextIs("no KEYS but MACHINES", x, -9, -9);
@@ -45,14 +45,14 @@ public final class CopiesTest {
         nextIs("no MACHINES", Check.told(KEY), -9, -9);
         nextIs("of several the first", Check.told(KEY + KEY + "mm0;mh0;"), 0, 0);
         nextIs("the first by KEYS", Check.told("k5252525252;k5454545454;mm5;mm1;"), 1, 5);
-        CopyOfACopy full = Check.told("k0000000000;".repeat(8), "k0000000000;k4747474747;mm9;mh3;");
+        Counted full = Check.told("k0000000000;".repeat(8), "k0000000000;k4747474747;mm9;mh3;");
         nextIs("without room for it", full, 91, 0);
         for (int what : new int[] {-1, 2, LEAST, MOST}) {
             CHECK.refused("next(" + what + ")", x, -2, () -> x.next(what));
         }
     }
 
-    private static void nextIs(String why, CopyOfACopy x, int which, int wiggle) {
+    private static void nextIs(String why, Counted x, int which, int wiggle) {
         CHECK.unchanged("next(0), " + why, x, which, () -> x.next(0));
         CHECK.unchanged("next(1), " + why, x, wiggle, () -> x.next(1));
     }
@@ -72,13 +72,13 @@ public final class CopiesTest {
         rowIs("first by copies, not by TEETH", Check.told("k5050505049;mm1;"), 1, 4);
     }
 
-    private static void rowIs(String why, CopyOfACopy x, int copies, int tooth) {
+    private static void rowIs(String why, Counted x, int copies, int tooth) {
         CHECK.unchanged("inRow(0, 0, 0), " + why, x, copies, () -> x.inRow(0, 0, 0));
         CHECK.unchanged("inRow(0, 0, 1), " + why, x, tooth, () -> x.inRow(0, 0, 1));
     }
 
     private static void inRowRefused() {
-        CopyOfACopy x = Check.told(KEY + KEY + "mm1;mh1;");
+        Counted x = Check.told(KEY + KEY + "mm1;mh1;");
         for (int wrong : new int[] {-1, 2, LEAST, MOST}) {
             CHECK.refused("inRow(" + wrong + ", 0, 2)", x, -1, () -> x.inRow(wrong, 0, 2));
             CHECK.refused("inRow(0, " + wrong + ", 2)", x, -1, () -> x.inRow(0, wrong, 2));
@@ -99,18 +99,18 @@ public final class CopiesTest {
         lastsIs("SLACK 0", Check.told(KEY + "s0;"), 10);
         lastsIs("one of TEETH alone", Check.told("k5050505048;"), 10);
         lastsIs("PINS worn from above it", Check.told("l0300000000;k0100000000;"), 10);
-        CopyOfACopy x = Check.told(KEY);
+        Counted x = Check.told(KEY);
         for (int key : new int[] {-1, 1, LEAST, MOST}) {
             CHECK.refused("lasts(" + key + ")", x, -1, () -> x.lasts(key));
         }
     }
 
-    private static void lastsIs(String why, CopyOfACopy x, int n) {
+    private static void lastsIs(String why, Counted x, int n) {
         CHECK.unchanged("lasts(0), " + why, x, n, () -> x.lasts(0));
     }
 
     private static void fit() {
-        CopyOfACopy x = Check.told("k5150455354;k5050505050;x0;");
+        Counted x = Check.told("k5150455354;k5050505050;x0;");
         CHECK.unchanged("fit(0)", x, 5, () -> x.fit(0));
         CHECK.unchanged("fit(1)", x, 0, () -> x.fit(1));
         CHECK.due("fit, the most", Check.told("l0000000000;k0000000099;").fit(0), 99);
@@ -120,7 +120,7 @@ public final class CopiesTest {
     }
 
     private static void anew() {
-        anewIs("no KEYS", new CopyOfACopy(), 0, 0, 0, 0, 0, 0);
+        anewIs("no KEYS", new Counted(), 0, 0, 0, 0, 0, 0);
         anewIs("one KEY", Check.told("k0001025099;"), 1, 0, 0, 0, 48, 97);
         anewIs("two of three", Check.told("k1010101010;k1414141414;k3030303030;"), 2, 12, 12, 12, 12, 12);
         anewIs("of several the least", Check.told("k1011121314;k1212121212;"), 2, 10, 10, 10, 11, 12);
@@ -128,16 +128,18 @@ public final class CopiesTest {
         anewIs("the greatest PIN", Check.told("k9999999999;s0;"), 1, 99, 99, 99, 99, 99);
         anewIs("as many, the lower", Check.told("k8080808080;k2020202020;s0;"), 1, 20, 20, 20, 20, 20);
         anewIs("each of TEETH by itself", Check.told("k1010905050;k1090105050;k9010105050;s0;"), 0, 10, 10, 10, 50, 50);
-        CopyOfACopy x = Check.told("k1010101010;k1414141414;k3030303030;x0;x1;");
+        Counted x = Check.told("k1010101010;k1414141414;k3030303030;x0;x1;");
         anewIs("SNAPPED ones do not count", x, 1, 28, 28, 28, 28, 28);
         x.snaps(2);
         anewIs("all SNAPPED", x, 0, 0, 0, 0, 0, 0);
+        anewIs("a SNAPPED one as the others", Check.told("k1010101010;k1010101010;x0;"), 1, 8, 8, 8, 8, 8);
+        anewIs("all SNAPPED, all at 0", Check.told("k0000000000;x0;"), 0, 0, 0, 0, 0, 0);
         for (int tooth : new int[] {-2, 5, LEAST, MOST}) {
             CHECK.refused("anew(" + tooth + ")", x, -1, () -> x.anew(tooth));
         }
     }
 
-    private static void anewIs(String why, CopyOfACopy x, int open, int... pins) {
+    private static void anewIs(String why, Counted x, int open, int... pins) {
         CHECK.unchanged("anew(-1), " + why, x, open, () -> x.anew(-1));
         for (int t = 0; t < 5; t++) {
             int tooth = t;

@@ -13,28 +13,30 @@ public final class ImageAndCountTest {
     }
 
     private static void imageOfNothing() {
-        CopyOfACopy x = new CopyOfACopy();
+        Counted x = new Counted();
         CHECK.refused("on(), no IMAGE", x, -3, x::on);
-        CHECK.unchanged("image()", x, 0, x::image);
-        String before = Check.stateOf(x);
+        String before = x.shop();
+        CHECK.due("image()", x.image(), 0);
+        CHECK.same("image()", x.shop(), before);
         changeAll(x);
         CHECK.due("on()", x.on(), 0);
-        CHECK.sameState("on()", x, before);
+        CHECK.same("on()", x.shop(), before);
     }
 
     private static void imageOfAll() {
-        CopyOfACopy x = Check.told("l1020304050;k1121314151;k1020304050;mr4;mw1;c00;u025;x1;s7;");
-        String before = Check.stateOf(x);
+        Counted x = Check.told("l1020304050;k1121314151;k1020304050;mr4;mw1;c00;u025;x1;s7;");
+        String before = x.shop();
         CHECK.due("image()", x.image(), 25);
+        CHECK.same("image()", x.shop(), before);
         CHECK.due("FROM ahead of it", x.family(2, 1), 0);
         changeAll(x);
         CHECK.due("on()", x.on(), 25);
-        CHECK.sameState("on()", x, before);
+        CHECK.same("on()", x.shop(), before);
         CHECK.due("FROM behind it", x.family(2, 1), 0);
         CHECK.due("a KEY more", x.cut(0, 1), 3);
     }
 
-    private static void changeAll(CopyOfACopy x) {
+    private static void changeAll(Counted x) {
         Check.tell(x, "l7777777777;k7171717171;k7272727272;mg2;s3;");
         x.cut(0, 0);
         x.uses(0, 40);
@@ -46,7 +48,7 @@ public final class ImageAndCountTest {
     }
 
     private static void imageStays() {
-        CopyOfACopy x = Check.told("k5050505050;");
+        Counted x = Check.told("k5050505050;");
         x.image();
         x.uses(0, 30);
         CHECK.due("on()", x.on(), 0);
@@ -63,7 +65,7 @@ public final class ImageAndCountTest {
     }
 
     private static void notInTheImage() {
-        CopyOfACopy x = new CopyOfACopy();
+        Counted x = new Counted();
         Check.tellRow(x, 1, 2);
         Check.spell(x, "s5");
         x.pin(9);
@@ -82,7 +84,7 @@ public final class ImageAndCountTest {
     }
 
     private static void count() {
-        CopyOfACopy x = Check.told("k5050505050;k5151515151;k6060606060;k5050505050;mm1;mh1;s3;u012;x3;");
+        Counted x = Check.told("k5050505050;k5151515151;k6060606060;k5050505050;mm1;mh1;s3;u012;x3;");
         Check.tellRow(x, 1, 2, 3, 4);
         Check.spell(x, "abc");
         int[] due = {4, 2, 12, 3, 8, 2, 4, 3};
@@ -96,7 +98,7 @@ public final class ImageAndCountTest {
     }
 
     private static void countRefusals() {
-        CopyOfACopy x = Check.told("k5050505050;x0;");
+        Counted x = Check.told("k5050505050;x0;");
         x.pin(5);
         x.mend(1);
         x.slip(1, 0, 0, 2, 0);

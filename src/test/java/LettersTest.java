@@ -16,7 +16,7 @@ public final class LettersTest {
     }
 
     private static void newObject() {
-        CopyOfACopy x = new CopyOfACopy();
+        Counted x = new Counted();
         int[] due = {0, 0, 0, 2, 0, 0, 0, 0, -9, -9, -9, 0, 0, 0, 0, 0, 0};
         for (int what = 0; what < due.length; what++) {
             CHECK.due("new: count(" + what + ")", x.count(what), due[what]);
@@ -28,7 +28,7 @@ public final class LettersTest {
     }
 
     private static void letters() {
-        CopyOfACopy x = new CopyOfACopy();
+        Counted x = new Counted();
         CHECK.refused("letter(-1)", x, -4, () -> x.letter(-1));
         CHECK.refused("letter(least)", x, -4, () -> x.letter(Integer.MIN_VALUE));
         CHECK.refused("letter(256)", x, -6, () -> x.letter(256));
@@ -46,7 +46,7 @@ public final class LettersTest {
     }
 
     private static void statements() {
-        CopyOfACopy x = new CopyOfACopy();
+        Counted x = new Counted();
         CHECK.due("l", Check.tell(x, "l0001509899;"), 1);
         CHECK.pins("l", x, 0, 1, 50, 98, 99);
         CHECK.due("k", Check.tell(x, "k0009509099;"), 1);
@@ -85,7 +85,7 @@ public final class LettersTest {
     }
 
     private static void laterTexts() {
-        CopyOfACopy x = Check.told(KEY, "mm1;");
+        Counted x = Check.told(KEY, "mm1;");
         CHECK.due("a KEY told ahead", Check.tell(x, "c00;c10;"), 2);
         CHECK.heights("a KEY told ahead", x, 2, 48, 48, 48, 48, 48);
         CHECK.due("no such KEY yet", Check.tell(x, "c30;"), -2000);
@@ -105,49 +105,49 @@ public final class LettersTest {
             4, 5, 2, 3, 7, 25};
         CHECK.due("as many places as texts", places.length, texts.length);
         for (int i = 0; i < texts.length; i++) {
-            fault(new CopyOfACopy(), texts[i], -1000 - places[i]);
+            fault(new Counted(), texts[i], -1000 - places[i]);
         }
         for (int c = 0; c < 256; c++) {
             String begins = "lkmcusx";
-            fault(new CopyOfACopy(), String.valueOf((char) c), begins.indexOf(c) >= 0 ? -1001 : -1000);
+            fault(new Counted(), String.valueOf((char) c), begins.indexOf(c) >= 0 ? -1001 : -1000);
             boolean digit = c >= '0' && c <= '9';
-            fault(new CopyOfACopy(), "s" + (char) c, digit ? -1002 : -1001);
-            fault(new CopyOfACopy(), "s1" + (char) c + "q", c == ';' ? -1003 : -1002);
-            fault(new CopyOfACopy(), "m" + (char) c, "mhwrsg".indexOf(c) >= 0 ? -1002 : -1001);
+            fault(new Counted(), "s" + (char) c, digit ? -1002 : -1001);
+            fault(new Counted(), "s1" + (char) c + "q", c == ';' ? -1003 : -1002);
+            fault(new Counted(), "m" + (char) c, "mhwrsg".indexOf(c) >= 0 ? -1002 : -1001);
         }
-        fault(new CopyOfACopy(), "s1;".repeat(31) + "s1s", -1095);
-        fault(new CopyOfACopy(), "s1;".repeat(31) + "x0", -1095);
-        fault(new CopyOfACopy(), "s1;".repeat(31) + "c00", -1096);
+        fault(new Counted(), "s1;".repeat(31) + "s1s", -1095);
+        fault(new Counted(), "s1;".repeat(31) + "x0", -1095);
+        fault(new Counted(), "s1;".repeat(31) + "c00", -1096);
     }
 
     private static void senses() {
-        fault(new CopyOfACopy(), "x0;", -2000);
-        fault(new CopyOfACopy(), "s1;u001;", -2003);
-        fault(new CopyOfACopy(), "s1;" + KEY + "x1;", -2015);
-        fault(new CopyOfACopy(), KEY + "c00;", -2012);
-        fault(new CopyOfACopy(), "mm0;c00;", -2004);
-        fault(new CopyOfACopy(), KEY + "mm0;c01;", -2016);
-        fault(new CopyOfACopy(), "x0;" + KEY, -2000);
-        fault(new CopyOfACopy(), KEY + "x0;x0;", -2015);
-        fault(new CopyOfACopy(), KEY + "x0;u000;", -2015);
-        fault(new CopyOfACopy(), KEY + "mm0;x0;c00;", -2019);
-        fault(new CopyOfACopy(), KEY + "u950;", -2012);
+        fault(new Counted(), "x0;", -2000);
+        fault(new Counted(), "s1;u001;", -2003);
+        fault(new Counted(), "s1;" + KEY + "x1;", -2015);
+        fault(new Counted(), KEY + "c00;", -2012);
+        fault(new Counted(), "mm0;c00;", -2004);
+        fault(new Counted(), KEY + "mm0;c01;", -2016);
+        fault(new Counted(), "x0;" + KEY, -2000);
+        fault(new Counted(), KEY + "x0;x0;", -2015);
+        fault(new Counted(), KEY + "x0;u000;", -2015);
+        fault(new Counted(), KEY + "mm0;x0;c00;", -2019);
+        fault(new Counted(), KEY + "u950;", -2012);
         fault(Check.told(KEY, "x0;"), "s1;x0;", -2003);
         CHECK.due("the copy of a KEY that is SNAPPED then", Check.tell(Check.told(KEY, "mm0;"), "c00;x0;c10;u101;"), 4);
     }
 
     private static void room() {
-        CopyOfACopy full = Check.told(KEY.repeat(8), KEY);
+        Counted full = Check.told(KEY.repeat(8), KEY);
         CHECK.due("the 10th KEY and one more", Check.tell(full, KEY + "s1;" + KEY), -2015);
         CHECK.due("nine KEYS still", full.count(0), 9);
         CHECK.due("the 10th KEY", Check.tell(full, KEY + "mm0;"), 2);
         fault(full, KEY, -2000);
         fault(full, "s1;c90;", -2003);
-        CopyOfACopy machines = Check.told("mm0;mm1;mm2;mm3;");
+        Counted machines = Check.told("mm0;mm1;mm2;mm3;");
         fault(machines, "mm4;mm5;", -2004);
         CHECK.due("the 5th MACHINE", Check.tell(machines, "mm4;"), 1);
         fault(machines, "mm5;", -2000);
-        CopyOfACopy used = Check.told(KEY);
+        Counted used = Check.told(KEY);
         for (int i = 0; i < 100; i++) {
             used.uses(0, 99);
         }
@@ -159,14 +159,14 @@ public final class LettersTest {
     }
 
     private static void faultsChangeNothing() {
-        CopyOfACopy x = Check.told("k1122334455;k5050505050;mh2;", "x1;");
+        Counted x = Check.told("k1122334455;k5050505050;mh2;", "x1;");
         fault(x, "l1010101010;k1010101010;mm1;c00;u099;s9;x0;x1;", -2043);
         fault(x, "l1010101010;k1010101010;mm1;c00;u099;s9;x0;xx", -1044);
         CHECK.due("letters behind a fault", x.letter('s'), 1);
     }
 
     /** A text with a fault: its answer, no letter left, nothing changed and no refusal counted. */
-    private static void fault(CopyOfACopy x, String text, int answer) {
+    private static void fault(Counted x, String text, int answer) {
         CHECK.unchanged("lock() of " + text, x, answer, () -> Check.tell(x, text));
     }
 }

@@ -23,7 +23,7 @@ public final class LockAndKeysTest {
     }
 
     private static void pin() {
-        CopyOfACopy x = Check.told("l0001509899;");
+        Counted x = Check.told("l0001509899;");
         CHECK.pins("pin", x, 0, 1, 50, 98, 99);
         for (int tooth : new int[] {-1, 5, LEAST, MOST}) {
             CHECK.refused("pin(" + tooth + ")", x, -1, () -> x.pin(tooth));
@@ -31,7 +31,7 @@ public final class LockAndKeysTest {
     }
 
     private static void key() {
-        CopyOfACopy x = Check.told("l5050505050;k5149525048;k5347505053;mm0;c00;", "x1;");
+        Counted x = Check.told("l5050505050;k5149525048;k5347505053;mm0;c00;", "x1;");
         int[][] due = {{51, 49, 52, 50, 48, -9, 0, 1, 6, 2}, {53, 47, 50, 50, 53, -9, 1, 0, 9, 0},
             {51, 49, 52, 50, 48, 0, 0, 1, 6, 2}};
         for (int key = 0; key < 3; key++) {
@@ -49,7 +49,7 @@ public final class LockAndKeysTest {
         x.slack(1);
         CHECK.due("OPENS with less SLACK", x.key(0, 7), 0);
         for (int tooth = 0; tooth < 5; tooth++) {
-            CopyOfACopy one = Check.told("k5151515151;");
+            Counted one = Check.told("k5151515151;");
             one.files(0, tooth, 47);
             CHECK.due("WORST at " + tooth, one.key(0, 9), tooth);
         }
@@ -59,7 +59,7 @@ public final class LockAndKeysTest {
     }
 
     private static void machine() {
-        CopyOfACopy x = Check.told("mg7;mm0;");
+        Counted x = Check.told("mg7;mm0;");
         CHECK.due("machine(0, 0)", x.machine(0, 0), 5);
         CHECK.due("machine(0, 1)", x.machine(0, 1), 7);
         CHECK.due("machine(1, 0)", x.machine(1, 0), 0);
@@ -72,7 +72,7 @@ public final class LockAndKeysTest {
     }
 
     private static void sets() {
-        CopyOfACopy x = new CopyOfACopy();
+        Counted x = new Counted();
         CHECK.due("sets(1, 0)", x.sets(1, 0), 50);
         CHECK.due("sets(1, 99)", x.sets(1, 99), 0);
         CHECK.due("sets(4, 7)", x.sets(4, 7), 50);
@@ -87,7 +87,7 @@ public final class LockAndKeysTest {
     }
 
     private static void slack() {
-        CopyOfACopy x = new CopyOfACopy();
+        Counted x = new Counted();
         CHECK.due("slack(9)", x.slack(9), 2);
         CHECK.due("slack(0)", x.slack(0), 9);
         CHECK.refused("slack(-1)", x, -4, () -> x.slack(-1));
@@ -98,7 +98,7 @@ public final class LockAndKeysTest {
     }
 
     private static void files() {
-        CopyOfACopy x = Check.told("k1020304050;k5050505050;x0;");
+        Counted x = Check.told("k1020304050;k5050505050;x0;");
         CHECK.due("files(0, 2, 99)", x.files(0, 2, 99), 30);
         CHECK.due("files(0, 2, 0)", x.files(0, 2, 0), 99);
         CHECK.heights("files", x, 0, 10, 20, 0, 40, 50);
@@ -112,7 +112,7 @@ public final class LockAndKeysTest {
     }
 
     private static void turn() {
-        CopyOfACopy x = Check.told("mr4;mm0;");
+        Counted x = Check.told("mr4;mm0;");
         CHECK.due("turn(0, 5, 9)", x.turn(0, 5, 9), 34);
         CHECK.due("turn(0, 0, 0)", x.turn(0, 0, 0), 59);
         CHECK.due("KIND", x.machine(0, 0), 0);
@@ -132,7 +132,7 @@ public final class LockAndKeysTest {
     }
 
     private static void cutByKinds() {
-        CopyOfACopy x = Check.told("k4142434445;mm3;");
+        Counted x = Check.told("k4142434445;mm3;");
         int[][] due = {{38, 39, 40, 41, 42}, {44, 45, 46, 47, 48}, {38, 42, 40, 44, 42}, {40, 40, 40, 40, 40},
             {44, 46, 48, 50, 52}, {40, 40, 40, 40, 40}};
         for (int kind = 0; kind < 6; kind++) {
@@ -145,13 +145,13 @@ public final class LockAndKeysTest {
         CHECK.heights("what was cut from stays", x, 0, 41, 42, 43, 44, 45);
         CHECK.due("a copy of a copy", x.cut(5, 0), 7);
         CHECK.due("FROM", x.key(7, 5), 5);
-        CopyOfACopy halves = Check.told("k4950515556;mr4;mg4;c00;c01;");
+        Counted halves = Check.told("k4950515556;mr4;mg4;c00;c01;");
         CHECK.heights("ROUND, of two the lower", halves, 1, 40, 50, 50, 50, 50);
         CHECK.heights("GOOD, of two the lower", halves, 2, 50, 50, 50, 50, 60);
     }
 
     private static void cutIsHeld() {
-        CopyOfACopy x = Check.told("k0004559699;mm3;");
+        Counted x = Check.told("k0004559699;mm3;");
         int[][] due = {{0, 1, 52, 93, 96}, {3, 7, 58, 99, 99}, {0, 4, 52, 96, 96}, {0, 0, 50, 90, 99},
             {3, 8, 60, 99, 99}, {0, 0, 50, 99, 99}};
         for (int kind = 0; kind < 6; kind++) {
@@ -159,7 +159,7 @@ public final class LockAndKeysTest {
             int copy = x.cut(0, 0);
             CHECK.heights("held, KIND " + kind, x, copy, due[kind]);
         }
-        CopyOfACopy high = Check.told("k9999999999;mr0;mr4;mr9;mw9;c00;c01;c02;c03;");
+        Counted high = Check.told("k9999999999;mr0;mr4;mr9;mw9;c00;c01;c02;c03;");
         CHECK.heights("ROUND 0", high, 1, 99, 99, 99, 99, 99);
         CHECK.heights("ROUND 4", high, 2, 90, 90, 90, 90, 90);
         CHECK.heights("ROUND 9", high, 3, 90, 90, 90, 90, 90);
@@ -167,7 +167,7 @@ public final class LockAndKeysTest {
     }
 
     private static void cutRefused() {
-        CopyOfACopy x = Check.told("k5050505050;k5050505050;mm0;", "x1;");
+        Counted x = Check.told("k5050505050;k5050505050;mm0;", "x1;");
         for (int wrong : new int[] {-1, 2, LEAST, MOST}) {
             CHECK.refused("cut(" + wrong + ", 0)", x, -1, () -> x.cut(wrong, 0));
             CHECK.refused("cut(1, " + wrong + ")", x, -1, () -> x.cut(1, wrong));
@@ -182,7 +182,7 @@ public final class LockAndKeysTest {
     }
 
     private static void uses() {
-        CopyOfACopy x = Check.told("l5001020304;k5002050450;k5050505050;s1;");
+        Counted x = Check.told("l5001020304;k5002050450;k5050505050;s1;");
         CHECK.due("uses(0, 9)", x.uses(0, 9), 0);
         CHECK.heights("9 times", x, 0, 50, 2, 5, 4, 50);
         CHECK.pins("9 times", x, 50, 1, 2, 3, 4);
@@ -194,14 +194,14 @@ public final class LockAndKeysTest {
         CHECK.pins("99 times", x, 46, 0, 0, 0, 0);
         CHECK.heights("another", x, 1, 50, 50, 50, 50, 50);
         CHECK.due("USES", x.count(2), 127);
-        CopyOfACopy opens = Check.told("k5050505050;s1;");
+        Counted opens = Check.told("k5050505050;s1;");
         CHECK.due("uses(0, 20)", opens.uses(0, 20), 1);
         CHECK.due("uses(0, 20) again", opens.uses(0, 20), 0);
         CHECK.due("uses(0, 1)", opens.uses(0, 1), 0);
     }
 
     private static void usesRefused() {
-        CopyOfACopy x = Check.told("k5050505050;k5050505050;", "x1;");
+        Counted x = Check.told("k5050505050;k5050505050;", "x1;");
         for (int key : new int[] {-1, 2, LEAST, MOST}) {
             CHECK.refused("uses(" + key + ", 0)", x, -1, () -> x.uses(key, 0));
         }
@@ -224,7 +224,7 @@ public final class LockAndKeysTest {
     }
 
     private static void snaps() {
-        CopyOfACopy x = Check.told("k5050505050;k5050505050;k5050505050;");
+        Counted x = Check.told("k5050505050;k5050505050;k5050505050;");
         CHECK.due("snaps(1)", x.snaps(1), 2);
         CHECK.due("SNAPPED", x.key(1, 6), 1);
         CHECK.due("OPENS", x.key(1, 7), 0);
@@ -238,8 +238,8 @@ public final class LockAndKeysTest {
     }
 
     private static void opening() {
-        CHECK.due("opening(), no KEYS", new CopyOfACopy().opening(), 0);
-        CopyOfACopy x = Check.told("k5248505050;k5347505050;k5050505052;k5050505053;", "k4850505050;x4;");
+        CHECK.due("opening(), no KEYS", new Counted().opening(), 0);
+        Counted x = Check.told("k5248505050;k5347505050;k5050505052;k5050505053;", "k4850505050;x4;");
         CHECK.due("opening()", x.opening(), 5);
         x.slack(3);
         CHECK.due("opening(), SLACK 3", x.opening(), 15);

@@ -14,7 +14,7 @@ public final class RowTest {
     }
 
     private static void which() {
-        CopyOfACopy x = Check.told("k4142434445;mm3;mh3;mr3;mg9;mm3;", "x0;");
+        Counted x = Check.told("k4142434445;mm3;mh3;mr3;mg9;mm3;", "x0;");
         whichIs(x, 17, 3, 1, 38, 39, 40, 41, 42);
         whichIs(x, 17, 2, 0, 38, 39, 40, 41, 42);
         whichIs(x, 2, 3, 2, 44, 45, 46, 47, 48);
@@ -25,16 +25,16 @@ public final class RowTest {
         whichIs(x, 0, 5, 16, 46, 48, 50, 52, 54);
         whichIs(x, 0, 3, 0, 38, 39, 40, 41, 43);
         whichIs(x, 0, 3, 0, 39, 39, 40, 41, 42);
-        CopyOfACopy low = Check.told("k0000000000;mm9;");
+        Counted low = Check.told("k0000000000;mm9;");
         whichIs(low, 1, 9, 45, 0, 0, 0, 0, 0);
-        CopyOfACopy other = Check.told("k4142434445;k5050505050;mm1;");
+        Counted other = Check.told("k4142434445;k5050505050;mm1;");
         Check.tellRow(other, 49, 49, 49, 49, 49);
         CHECK.due("which(1, 1, 0)", other.which(1, 1, 0), 1);
         CHECK.due("which(0, 1, 0)", other.which(0, 1, 0), 0);
         CHECK.due("the ROW stays", other.judge(1), 0);
     }
 
-    private static void whichIs(CopyOfACopy x, int machines, int figure, int kinds, int... told) {
+    private static void whichIs(Counted x, int machines, int figure, int kinds, int... told) {
         Check.tellRow(x, told);
         CHECK.unchanged("which(0, " + figure + ", 0)", x, machines, () -> x.which(0, figure, 0));
         CHECK.unchanged("which(0, " + figure + ", 1)", x, kinds, () -> x.which(0, figure, 1));
@@ -42,7 +42,7 @@ public final class RowTest {
     }
 
     private static void whichRefused() {
-        CopyOfACopy x = Check.told("k4142434445;mm3;");
+        Counted x = Check.told("k4142434445;mm3;");
         for (int key : new int[] {-1, 1, LEAST, MOST}) {
             CHECK.refused("which(" + key + ", -1, 2)", x, -1, () -> x.which(key, -1, 2));
         }
@@ -64,7 +64,7 @@ public final class RowTest {
     }
 
     private static void row() {
-        CopyOfACopy x = new CopyOfACopy();
+        Counted x = new Counted();
         CHECK.refused("row(-1)", x, -4, () -> x.row(-1));
         CHECK.refused("row(least)", x, -4, () -> x.row(LEAST));
         CHECK.refused("row(100)", x, -6, () -> x.row(100));
@@ -80,7 +80,7 @@ public final class RowTest {
     }
 
     private static void judge() {
-        CopyOfACopy x = Check.told("k1020304050;k1020304051;");
+        Counted x = Check.told("k1020304050;k1020304051;");
         judged(x, 0, -9);
         judged(x, 0, -9, 10);
         judged(x, 0, 0, 11);
@@ -100,14 +100,14 @@ public final class RowTest {
         CHECK.due("the ROW stays", x.judge(0), 2);
     }
 
-    private static void judged(CopyOfACopy x, int key, int answer, int... told) {
+    private static void judged(Counted x, int key, int answer, int... told) {
         Check.tellRow(x, told);
         CHECK.due("judge(" + key + ") of " + told.length, x.judge(key), answer);
         CHECK.due("the ROW has none then", x.count(6), 0);
     }
 
     private static void clear() {
-        CopyOfACopy x = new CopyOfACopy();
+        Counted x = new Counted();
         CHECK.due("clear(), none", x.clear(), 0);
         Check.tellRow(x, 1, 2, 3);
         CHECK.due("clear()", x.clear(), 3);
